@@ -388,7 +388,6 @@ public final class TextVerbs {
             begin = region.beginIn(inspected);
             end = region.endIn(inspected);
             leadingPlace = begin;
-            spent = false;
         }
 
         boolean matches(Text inspected, int place) {

@@ -173,6 +173,10 @@ public final class UnstringTest {
         Expect.same("one receiver", verbs.split(from, 1), -1);
         Expect.same("one receiver", verbs.pointer(), 3);
         Expect.holds("one receiver", verbs, taker, "a ");
+        verbs.delimiter(comma, false);
+        verbs.receiver(taker);
+        Expect.same("from the last place", verbs.split(from, 3), 4);
+        Expect.holds("from the last place", verbs, taker, "b ");
         Expect.badArgument("no text", () -> verbs.split(4, 1));
         Expect.badArgument("text -1", () -> verbs.split(-1, 1));
         Expect.same("results stay", verbs.result(0, 0), 1);
