@@ -289,7 +289,7 @@ public final class TextVerbs {
         }
 
         boolean holds(Text sought, int place) {
-            int width = sought.size();
+            int width = sought.signs.length;
             if (place < 0 || width > signs.length - place) {
                 return false;
             }

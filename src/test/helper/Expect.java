@@ -6,8 +6,14 @@ final class Expect {
 
     private static int wrong = 0;
     private static int looked = 0;
+    private static String sentence = "";
 
     private Expect() {
+    }
+
+    /** What follows tests this sentence of the document; 0 for what stands ahead of all promises. */
+    static void sentence(int promise, String words) {
+        sentence = "promise " + promise + ", \"" + words + "\": ";
     }
 
     static void same(String what, long got, long due) {
@@ -43,7 +49,7 @@ final class Expect {
 
     static void complain(String words) {
         wrong++;
-        System.out.println(words);
+        System.out.println(sentence + words);
     }
 
     static int text(TextVerbs verbs, String signs) {
@@ -55,12 +61,16 @@ final class Expect {
     }
 
     static void holds(String what, TextVerbs verbs, int text, String due) {
+        same(what, read(verbs, text, due.length()), due);
+        badArgument(what + ", place behind the last one", () -> verbs.at(text, due.length()));
+    }
+
+    static String read(TextVerbs verbs, int text, int size) {
         StringBuilder signs = new StringBuilder();
-        for (int i = 0; i < due.length(); i++) {
+        for (int i = 0; i < size; i++) {
             signs.append((char) verbs.at(text, i));
         }
-        same(what, signs.toString(), due);
-        badArgument(what + ", place behind the last one", () -> verbs.at(text, due.length()));
+        return signs.toString();
     }
 
     static void end() {
