@@ -6,6 +6,7 @@ public final class StringTest {
         promise12Join();
         promise12Overflow();
         promise12PartsOfTheTextThatIsWritten();
+        promise12DelimiterIsLookedForOnceAPart();
         promise17Pointer();
         Expect.end();
     }
@@ -116,6 +117,16 @@ public final class StringTest {
         verbs.part(source, limit);
         Expect.same("a changed delimiter", verbs.join(limit, 1), -1);
         Expect.holds("a changed delimiter", verbs, limit, ",");
+    }
+
+    /** The document leaves this open: README.md says what is chosen. */
+    private static void promise12DelimiterIsLookedForOnceAPart() {
+        TextVerbs verbs = new TextVerbs();
+        int text = Expect.text(verbs, "ab,d..");
+        int comma = Expect.text(verbs, ",");
+        verbs.part(text, comma);
+        Expect.same("its comma is written over", verbs.join(text, 2), 4);
+        Expect.holds("its comma is written over", verbs, text, "aaad..");
     }
 
     private static void promise17Pointer() {
