@@ -16,6 +16,11 @@ final class Expect {
         sentence = "promise " + promise + ", \"" + words + "\": ";
     }
 
+    /** What follows tests this general rule of the document's "Terms". */
+    static void rule(String words) {
+        sentence = "Terms, \"" + words + "\": ";
+    }
+
     static void same(String what, long got, long due) {
         looked++;
         if (got != due) {

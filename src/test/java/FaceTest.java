@@ -7,13 +7,16 @@ import java.util.TreeSet;
 
 /** The public face is the document's, and nothing else can be seen from outside. */
 public final class FaceTest {
+    private static final String ARGUMENT = " IllegalArgumentException";
+    private static final String BOTH = " IllegalArgumentException IllegalStateException";
     private static final String[] METHODS = {
-        "int text(int)", "void set(int, int, int)", "int at(int, int)", "void span(boolean, int)",
-        "int tally(int, int, int)", "int replace(int, int, int)", "int inspect(int)",
-        "int convert(int, int, int)", "int counter(int)", "int part(int, int)", "int join(int, int)",
-        "int delimiter(int, boolean)", "int receiver(int)", "int split(int, int)", "int result(int, int)",
-        "int pointer()", "int table(int)", "int row(int, int, int)", "int index(int, int)",
-        "int search(int, boolean, int)", "void sort(int, boolean)"};
+        "int text(int)" + BOTH, "void set(int, int, int)" + ARGUMENT, "int at(int, int)" + ARGUMENT,
+        "void span(boolean, int)" + ARGUMENT, "int tally(int, int, int)" + BOTH, "int replace(int, int, int)" + BOTH,
+        "int inspect(int)" + ARGUMENT, "int convert(int, int, int)" + ARGUMENT, "int counter(int)" + ARGUMENT,
+        "int part(int, int)" + BOTH, "int join(int, int)" + ARGUMENT, "int delimiter(int, boolean)" + BOTH,
+        "int receiver(int)" + BOTH, "int split(int, int)" + ARGUMENT, "int result(int, int)", "int pointer()",
+        "int table(int)" + BOTH, "int row(int, int, int)" + ARGUMENT, "int index(int, int)" + ARGUMENT,
+        "int search(int, boolean, int)" + ARGUMENT, "void sort(int, boolean)" + ARGUMENT};
 
     public static void main(String[] args) {
         Expect.same("modifiers of the class", TextVerbs.class.getModifiers(), Modifier.PUBLIC | Modifier.FINAL);
@@ -35,7 +38,11 @@ public final class FaceTest {
                 for (Class<?> type : method.getParameterTypes()) {
                     words.append(words.length() == 0 ? "" : ", ").append(type);
                 }
-                seen.add(method.getReturnType() + " " + method.getName() + "(" + words + ")");
+                words.append(")");
+                for (Class<?> thrown : method.getExceptionTypes()) {
+                    words.append(" ").append(thrown.getSimpleName());
+                }
+                seen.add(method.getReturnType() + " " + method.getName() + "(" + words);
             }
         }
         return seen;
